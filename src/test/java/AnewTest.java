@@ -28,6 +28,10 @@ final class AnewTest {
         Check.insertLine(x, 1, "\"");
         CHECK.due("all become another again", x.anew(), 5);
         CHECK.due("as before", Check.colours(x, 2), "1");
+        PaintedLines y = Check.page("a", "b");
+        y.drops(1);
+        Check.insertLine(y, 0, "c");
+        CHECK.due("a line is new, though another went", y.anew(), 2);
     }
 
     private static void sets() {

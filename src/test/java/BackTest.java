@@ -9,6 +9,8 @@ final class BackTest {
         refusedCallsLeaveNone();
         paintAndStatesGoBack();
         changesBehindABack();
+        wordsAndRulesGoBackWhole();
+        fullPage();
         CHECK.end();
     }
 
@@ -135,5 +137,40 @@ final class BackTest {
         Check.insertLine(x, 1, "n");
         CHECK.due("a new line and the next", x.anew(), 2);
         CHECK.due("lines", Check.lines(x), "za|n|b|c");
+    }
+
+    private static void wordsAndRulesGoBackWhole() {
+        PaintedLines x = Check.page("ab cd ef");
+        Check.addWord(x, "ab");
+        Check.addWord(x, "cd");
+        x.unword(0);
+        CHECK.due("cd alone", Check.colours(x, 0), "11022011");
+        x.back();
+        CHECK.due("ab and cd", Check.colours(x, 0), "22022011");
+        x.back();
+        CHECK.due("ab alone", Check.colours(x, 0), "22011011");
+        x.rule(1, 0, 5);
+        x.rule(1, -1, 6);
+        x.back();
+        x.back();
+        CHECK.due("no rule", x.at(0, 3, 2), 0);
+        x.rule(-1, -1, 7);
+        CHECK.due("a rule that was gone back behind is not ahead", x.at(0, 3, 2), 7);
+    }
+
+    private static void fullPage() {
+        PaintedLines x = new PaintedLines();
+        for (int k = 0; k < 10; k++) {
+            Check.insertLine(x, k, "line " + k + " is not the last   30");
+        }
+        String before = whole(x);
+        x.drops(0);
+        x.drops(8);
+        CHECK.due("told(4)", x.told(4), 8);
+        x.back();
+        x.back();
+        CHECK.due("ten lines", whole(x), before);
+        x.sets(9);
+        CHECK.due("the last one's own text", x.anew(), 0);
     }
 }

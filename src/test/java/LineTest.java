@@ -12,6 +12,7 @@ final class LineTest {
         erases();
         splits();
         splitsRefused();
+        fullLines();
         eachLeavesAStateBack();
         CHECK.end();
     }
@@ -152,6 +153,19 @@ final class LineTest {
         CHECK.due("splits of 10", x.splits(0, 1), Check.FULL);
         CHECK.due("splits(0, 4) of 10", x.splits(0, 4), Check.BAD);
         CHECK.due("lines", Check.lines(x), "abc|||||||||");
+    }
+
+    private static void fullLines() {
+        String full = "abcdefghijklmnopqrstuvwxyz0123";
+        PaintedLines x = Check.page(full);
+        CHECK.due("splits(0, 0) of 30", x.splits(0, 0), 2);
+        CHECK.due("lines", Check.lines(x), "|" + full);
+        CHECK.due("splits(1, 30) of 30", x.splits(1, 30), 3);
+        CHECK.due("lines", Check.lines(x), "|" + full + "|");
+        CHECK.due("erases(1, 29)", x.erases(1, 29), '3');
+        CHECK.due("puts(1, 0, 35)", x.puts(1, 0, '#'), 30);
+        CHECK.due("erases(1, 1)", x.erases(1, 1), 'a');
+        CHECK.due("lines", Check.lines(x), "|#bcdefghijklmnopqrstuvwxyz012|");
     }
 
     private static void eachLeavesAStateBack() {

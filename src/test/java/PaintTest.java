@@ -58,6 +58,8 @@ final class PaintTest {
         due("'\\'a'b", "477441", FREE);
         due("\"a\\", "444", "2 1 34 -1");
         due("\"\\\\\\", "4774", "2 1 34 -1");
+        due("\"\\\"", "477", "2 1 34 -1");
+        due("'\\a", "477", FREE);
         PaintedLines x = Check.page("\"\\", "\"a");
         CHECK.due("an escape ends with its line", Check.colours(x, 1), "41");
     }
@@ -157,6 +159,10 @@ final class PaintTest {
         due("\"{<A", "4700", "3 0 -1 -1");
         due("\"{<A}\"<B", "47007477", "1 0 -1 66");
         due("#<A", "555", FREE);
+        PaintedLines x = Check.page("<A");
+        x.erases(0, 1);
+        CHECK.due("its letter gone", Check.colours(x, 0), "0");
+        CHECK.due("its letter gone", Check.end(x, 0), FREE);
     }
 
     private static void marksAboveWhatIsOpen() {
@@ -215,6 +221,10 @@ final class PaintTest {
         CHECK.due("of(1, 1)", x.of(1, 1), 0);
         CHECK.due("of(3, 1)", x.of(3, 1), 1);
         CHECK.due("NONE is not refused", x.told(0), 0);
+        PaintedLines y = Check.page("#23456789 123456789 123456789 ");
+        CHECK.due("of a line of 30: of(0, 1)", y.of(0, 1), 1);
+        CHECK.due("of a line of 30: span(0, 0, 1)", y.span(0, 0, 1), 30);
+        CHECK.due("of a line of 30: painted(5)", y.painted(5), 30);
     }
 
     private static void paintedBytes() {
