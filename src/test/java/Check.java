@@ -33,6 +33,10 @@ final class Check {
         due(what, holds ? "true" : "false", "true");
     }
 
+    int asked() {
+        return asked;
+    }
+
     void end() {
         System.out.println(test + ": " + asked + " answers, " + wrong + " of them not as due");
         if (wrong != 0 || asked == 0) {
@@ -107,5 +111,35 @@ final class Check {
     /** Of a line's end: how many are on the pile, the highest mode, its quote, the mark. */
     static String end(PaintedLines x, int k) {
         return x.of(k, 2) + " " + x.of(k, 3) + " " + x.of(k, 4) + " " + x.of(k, 5);
+    }
+
+    /** All that questions can see, but how often calls were refused. */
+    static String seen(PaintedLines x) {
+        StringBuilder all = new StringBuilder("anew " + x.anew());
+        for (int what = 3; what <= 7; what++) {
+            all.append(' ').append(x.told(what));
+        }
+        for (int k = 0; k < x.told(4); k++) {
+            all.append('\n').append(line(x, k)).append(' ').append(colours(x, k)).append(' ');
+            all.append(shades(x, k)).append(" / ").append(x.of(k, 1)).append(' ').append(end(x, k));
+        }
+        return all.toString();
+    }
+
+    /**
+     * All that an object holds, but how often calls were refused: what questions see, the text as a
+     * line, and all that it can go back to. It uses the object up.
+     */
+    static String held(PaintedLines x) {
+        StringBuilder all = new StringBuilder(seen(x));
+        for (int n = 0; n < 5 && x.told(7) > 0; n++) {
+            x.back();
+            all.append('\n').append(seen(x));
+        }
+        for (int n = 0; n < 10 && x.told(4) > 0; n++) {
+            x.drops(0);
+        }
+        x.inserts(0);
+        return all.append('\n').append(seen(x)).toString();
     }
 }
