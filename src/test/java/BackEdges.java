@@ -134,6 +134,34 @@ final class BackEdges {
         edges.due("what stands open", Check.end(x, 1), "2 1 34 -1");
         edges.due("THE TEXT goes not back", x.told(3), 3);
         edges.due("how often refused goes not back", x.told(0), 1);
+        whole();
+        rulesGoBackWhole();
+    }
+
+    private void whole() {
+        PaintedLines x = Check.page("0", "1", "2", "3", "4", "5", "6", "7", "8", "\"" + "a".repeat(29));
+        x.unword(0);
+        x.drops(0);
+        x.drops(8);
+        x.back();
+        x.back();
+        x.back();
+        edges.due("ten LINES", Check.lines(x), "0|1|2|3|4|5|6|7|8|\"" + "a".repeat(29));
+        x.sets(9);
+        edges.due("the last one is the same", x.anew(), 0);
+    }
+
+    private void rulesGoBackWhole() {
+        PaintedLines x = Check.page("a");
+        x.rule(1, 0, 5);
+        x.back();
+        x.rule(-1, -1, 7);
+        edges.due("a RULE that was gone back behind goes ahead of none", x.at(0, 0, 2), 7);
+        x.rule(1, 0, 6);
+        x.rule(1, 0, 8);
+        x.back();
+        x.rule(1, -1, 9);
+        edges.due("one that came back goes ahead", x.at(0, 0, 2), 6);
     }
 
     private void anewIsZero() {

@@ -32,7 +32,8 @@ final class CallEdges {
         edges.promise(4, "S.", () -> leavesAStateBack(x -> x.inserts(1), "a|zz|b{|c"));
         edges.promise(4, "BAD;", () -> edges.bad("inserts", 0, 3, k -> three().inserts(k)));
         edges.promise(4, "FULL: 10.", this::insertsFull);
-        edges.promise(5, "`int sets(int k)`: LINE k becomes THE TEXT (which stays): how many bytes it had.", this::sets);
+        edges.promise(5, "`int sets(int k)`: LINE k becomes THE TEXT (which stays): how many bytes it had.",
+                this::sets);
         edges.promise(5, "S.", () -> leavesAStateBack(x -> x.sets(1), "a|zz|c"));
         edges.promise(5, "BAD.", () -> edges.bad("sets", 0, 2, k -> three().sets(k)));
         edges.promise(5, "(Was it the same, no LINE was changed: ANEW 0.)", this::setsTheSame);

@@ -45,7 +45,7 @@ final class Edges {
     }
 
     private void under(String from, String to, String text, Runnable test) {
-        words = text;
+        words = from.replace("## ", "").replace(":", "") + ", \"" + text + "\"";
         int begin = document.indexOf(from);
         int end = document.indexOf(to);
         int place = document.indexOf(text, begin);
@@ -57,20 +57,30 @@ final class Edges {
             Arrays.fill(isTested, place, place + text.length(), true);
         }
         int before = check.asked();
-        test.run();
-        due("something is asked", check.asked() > before);
+        due("what a call threw", thrownBy(test), "nothing");
+        due("something is asked", check.asked() > before + 1);
+    }
+
+    /** No call may throw; the tests behind one that throws are run all the same. */
+    private static String thrownBy(Runnable test) {
+        try {
+            test.run();
+            return "nothing";
+        } catch (RuntimeException thrown) {
+            return thrown.toString();
+        }
     }
 
     void due(String what, long got, long want) {
-        check.due("\"" + words + "\": " + what, got, want);
+        check.due(words + ": " + what, got, want);
     }
 
     void due(String what, String got, String want) {
-        check.due("\"" + words + "\": " + what, got, want);
+        check.due(words + ": " + what, got, want);
     }
 
     void due(String what, boolean holds) {
-        check.isTrue("\"" + words + "\": " + what, holds);
+        check.isTrue(words + ": " + what, holds);
     }
 
     /** A line alone on its page: a figure for each byte's colour, and what stands open at its end. */

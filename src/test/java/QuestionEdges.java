@@ -9,21 +9,23 @@ final class QuestionEdges {
     }
 
     void all() {
-        edges.promise(13, "`int at(int k, int i, int what)`: Byte i of LINE k: the byte (what 0), COLOUR (1), SHADE (2).",
-                this::at);
+        edges.promise(13, "`int at(int k, int i, int what)`: Byte i of LINE k: the byte (what 0), COLOUR (1),"
+                + " SHADE (2).", this::at);
         edges.promise(13, "BAD.", this::atBad);
         of();
-        edges.promise(15, "`int span(int k, int i, int what)`: Of SPAN i of LINE k: where it begins (what 0), how long it"
-                + " is (1), COLOUR (2).", this::span);
+        edges.promise(15, "`int span(int k, int i, int what)`: Of SPAN i of LINE k: where it begins (what 0), how long"
+                + " it is (1), COLOUR (2).", this::span);
         edges.promise(15, "NONE: not so many.", this::spanNone);
         edges.promise(15, "BAD: i below 0, too.", this::spanBad);
         edges.promise(16, "`int anew()`: ANEW (0 ahead of any CHANGE).", this::anew);
-        edges.promise(17, "`int painted(int colour)`: How many bytes of all LINES have a COLOUR (0 .. 7).", this::painted);
+        edges.promise(17, "`int painted(int colour)`: How many bytes of all LINES have a COLOUR (0 .. 7).",
+                this::painted);
         edges.promise(17, "BAD.", () -> edges.bad("painted", 0, 7, colour -> lines().painted(colour)));
         edges.promise(18, "`int back()`: A STATE BACK: how many can be yet.", this::back);
         edges.promise(18, "NO: none.", this::backNone);
         edges.promise(19, "`int told(int what)`: How often refused: BAD (0), NO (1), FULL (2);", this::toldRefused);
-        edges.promise(19, "bytes of THE TEXT (3), LINES (4), WORDS (5), RULES (6), STATES BACK (7).", this::toldHowMany);
+        edges.promise(19, "bytes of THE TEXT (3), LINES (4), WORDS (5), RULES (6), STATES BACK (7).",
+                this::toldHowMany);
         edges.promise(19, "BAD.", () -> edges.bad("told", 0, 7, what -> lines().told(what)));
         digest();
     }

@@ -45,7 +45,7 @@ final class ShadeEdges {
     }
 
     private void spans() {
-        PaintedLines x = Check.page("", "a", "aB", "a1a1", "\"a\"'b'", "[]#[", " \"" , "]a[b\"");
+        PaintedLines x = Check.page("", "a", "aB", "a1a1", "\"a\"'b'", "[]#[", " \"", "]a[b\"");
         String[] want = {"", "0+1:1", "0+1:1 1+1:0", "0+1:1 1+1:3 2+1:1 3+1:3", "0+6:4", "0+4:5", "0+1:0 1+1:4",
             "0+5:4"};
         for (int k = 0; k < want.length; k++) {
