@@ -676,17 +676,15 @@ public final class PaintedLines {
 
     /** Paints line after line; what stands open goes on from one to the next. */
     private static final class Painter {
-        final Words words;
         final State state;
         int comingMark;
 
-        Painter(Words words) {
-            this.words = words;
+        Painter() {
             state = new State();
             comingMark = NONE;
         }
 
-        void paintLine(Line line) {
+        void paintLine(Line line, Words words) {
             if (state.mark != NONE) {
                 paintTillMark(line);
                 return;
@@ -694,7 +692,7 @@ public final class PaintedLines {
             comingMark = NONE;
             int next;
             for (int i = 0; i < line.row.length; i = next) {
-                next = Math.max(i + 1, paintFrom(line, i, state.mode()));
+                next = Math.max(i + 1, paintFrom(line, i, words));
             }
             state.mark = comingMark;
             state.closeLineStrings();
@@ -709,8 +707,9 @@ public final class PaintedLines {
         }
 
         /** Answers where the next byte to be painted stands. */
-        private int paintFrom(Line line, int i, int mode) {
+        private int paintFrom(Line line, int i, Words words) {
             int c = line.row.signAt(i);
+            int mode = state.mode();
             if (mode == REMARK) {
                 return line.fill(i, i + 1, takeInRemark(c), REMARK);
             }
@@ -721,7 +720,7 @@ public final class PaintedLines {
                         : line.fill(i, i + 1, takeInString(c), STRING);
             }
             if (isLetter(c)) {
-                return paintName(line, i);
+                return paintName(line, i, words);
             }
             if (isFigure(c)) {
                 return line.fill(i, endOfFigures(line.row, i), FIGURE_COLOUR, CODE);
@@ -774,7 +773,7 @@ public final class PaintedLines {
             }
         }
 
-        private int paintName(Line line, int from) {
+        private int paintName(Line line, int from, Words words) {
             int to = from + 1;
             while (to < line.row.length && isLetter(line.row.signAt(to))) {
                 to++;
@@ -814,7 +813,7 @@ public final class PaintedLines {
             }
             words = new Words();
             rules = new Rules();
-            painter = new Painter(words);
+            painter = new Painter();
             count = 0;
         }
 
@@ -867,7 +866,7 @@ public final class PaintedLines {
             int painted = 0;
             for (int k = Math.max(0, first); k < count; k++) {
                 Line line = lines[k];
-                painter.paintLine(line);
+                painter.paintLine(line, words);
                 painted++;
                 boolean isAsBefore = !line.isNew && painter.state.isLike(line.end);
                 line.end.copyFrom(painter.state);
